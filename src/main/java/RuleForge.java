@@ -1077,11 +1077,11 @@ public final class RuleForge {
         }
 
         boolean supportsFact(int m, int fact) {
-            if (!isSpent(m)) {
+            if (!isMatch(m) || !fired[m]) {
                 return false;
             }
             for (int a = 0; a < ACTIONS; a++) {
-                if (toldBy(m, a) == fact) {
+                if (told[m * ACTIONS + a] == fact) {
                     return true;
                 }
             }

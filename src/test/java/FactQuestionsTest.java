@@ -16,6 +16,7 @@ public final class FactQuestionsTest {
         promise31WithoutFacts();
         promise31Least();
         promise32();
+        firstFactOfFirstKind();
         check.end();
     }
 
@@ -220,5 +221,36 @@ public final class FactQuestionsTest {
         check.same("32: FIRED or not", x.uses(0), 4);
         x.switchOff(0);
         check.same("32: of rule 1 alone", x.uses(1), 1);
+    }
+
+    /** Number 0 and kind 0, and SUPPORTED: it counts like any other. */
+    private static void firstFactOfFirstKind() {
+        RuleForge x = new RuleForge();
+        x.addRule(0);
+        x.addCondition(0, NONE, 7, 1);
+        x.addTold(0, true, 0);
+        x.switchOn(0);
+        support(x, 1, 0);
+        x.fire(20);
+        check.isSo("24: fact 0", x.isThere(0));
+        check.same("25: fact 0", x.find(0, 0, 0, 0), 0);
+        check.same("26: fact 0", x.kindOf(0), 0);
+        check.isNotSo("28: fact 0", x.isStated(0));
+        check.same("29: fact 0", x.supports(0), 1);
+        check.same("30: fact 0", x.because(0), 0);
+        check.same("31: fact 0", x.distance(0), 1);
+        check.same("31: behind fact 0", x.distance(1), 2);
+        check.same("32: fact 0", x.uses(0), 1);
+        check.same("41: both are SUPPORTED", x.meanSupports(), 1.0);
+        check.isSo("45: fact 0", x.wouldHold(0, 0, 0, 0, 1));
+        support(x, 2, 3);
+        support(x, 3, 2);
+        x.state(3, 0, 0, 0);
+        x.fire(20);
+        x.takeBack(x.find(3, 0, 0, 0));
+        check.same("31: in a ring, with fact 0 beside it", x.distance(x.find(3, 0, 0, 0)), -1);
+        x.switchOff(0);
+        check.isNotSo("24: gone", x.isThere(0));
+        check.same("22: the ring stays", x.facts(), 2);
     }
 }

@@ -19,6 +19,7 @@ public final class RuleBuildingTest {
         promise7();
         promise8();
         promise8Sound();
+        promise8Values();
         promise9();
         whileOn();
         asked();
@@ -306,6 +307,28 @@ public final class RuleBuildingTest {
         check.isNotSo("8: RETRACT of a condition that is not there", x.isSound(1));
         x.addCondition(1, EACH, 0, 1);
         check.isSo("8: now it is there", x.isSound(1));
+    }
+
+    /** Each slot of each action needs its variable, whichever it is. */
+    private static void promise8Values() {
+        for (int variable = 0; variable < 6; variable++) {
+            RuleForge x = new RuleForge();
+            x.addRule(0);
+            x.addCondition(0, EACH, 0, 1);
+            x.addTold(0, true, 1);
+            x.addTold(0, false, 1);
+            for (int i = 0; i < 6; i++) {
+                x.setValue(0, i / 3, i % 3, variable, 0);
+                check.isNotSo("8: not bound, slot " + i % 3 + " of action " + i / 3, x.isSound(0));
+                x.setValue(0, i / 3, i % 3, -1, 0);
+                check.isSo("8: without a variable", x.isSound(0));
+            }
+            x.setValue(0, 1, 2, variable, 0);
+            x.setTest(0, 0, 1, 4, variable);
+            check.isSo("8: bound", x.isSound(0));
+            x.setTest(0, 0, 1, 4, (variable + 1) % 6);
+            check.isNotSo("8: another one is bound", x.isSound(0));
+        }
     }
 
     private static void promise9() {

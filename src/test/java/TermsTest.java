@@ -27,6 +27,7 @@ public final class TermsTest {
         supportEndsWithTheMatch();
         settlesBetweenActions();
         newFactDoesNotInheritSupport();
+        twoKindsGoAtOnce();
         check.end();
     }
 
@@ -417,5 +418,23 @@ public final class TermsTest {
         check.same("so nothing holds it", x.takeBack(2), 1);
         check.isSo("the match still has FIRED", x.hasFired(0, 0));
         check.same("and uses count", x.uses(0), 1);
+    }
+
+    /** What rests on either of two facts that go together goes too, down to the last. */
+    private static void twoKindsGoAtOnce() {
+        RuleForge x = new RuleForge();
+        int[][] told = {{0, 1}, {0, 2}, {1, 3}, {2, 4}, {3, 5}, {4, 6}};
+        for (int r = 0; r < 6; r++) {
+            x.addRule(0);
+            x.addCondition(r, EACH, told[r][0], 1);
+            x.addTold(r, true, told[r][1]);
+            x.switchOn(r);
+        }
+        x.state(0, 0, 0, 0);
+        check.same("six fire", x.fire(20), 6);
+        check.same("all seven would go", x.wouldGo(0), 7);
+        check.same("and go", x.takeBack(0), 7);
+        check.same("none stays", x.facts(), 0);
+        check.same("and no match", x.matches(3) + x.matches(4) + x.matches(5), 0);
     }
 }

@@ -13,6 +13,7 @@ public final class WouldBeTest {
         promise45();
         wrongMost();
         promise46();
+        promise46NextRule();
         nothingIsChanged();
         check.end();
     }
@@ -138,6 +139,22 @@ public final class WouldBeTest {
             1, 1, -3, 1, 1, 1, 1, 1, 1,
             1, 1, 7, 8, 9, 1, 0, -1, 0, 1,
             2, 2, 0, 7, 0, 0, 1, 0, 1, 0));
+    }
+
+    /** The next rule is 1, with three facts; fact 0 is of kind 0. */
+    private static void promise46NextRule() {
+        RuleForge x = new RuleForge();
+        x.addRule(0);
+        x.addRule(2);
+        x.addCondition(1, EACH, 0, 1);
+        x.addCondition(1, EACH, 0, 1);
+        x.addCondition(1, EACH, 0, 1);
+        x.switchOn(1);
+        x.state(0, 1, -1, 2);
+        check.same("46: the next rule is 1", x.digest(), digest(2, 1, 1, 1, 1, 0, 0, 0, 0,
+            0, 0, 0, 0, 0, 0, 0,
+            1, 1, 2, 3, 0, 0, 1, 0, 0, 0, 0,
+            0, 0, 1, -1, 2, 1, 0, -1, 0, 1));
     }
 
     private static long digest(long... numbers) {
