@@ -66,7 +66,10 @@ final class Check {
         Class<?> type = o.getClass();
         if (type.isArray()) {
             for (int i = 0; i < Array.getLength(o); i++) {
-                d = o instanceof int[] ints ? d * 31 + ints[i] : fold(d, Array.get(o, i), depth + 1);
+                d = o instanceof int[] ints ? d * 31 + ints[i]
+                    : o instanceof long[] longs ? d * 31 + longs[i]
+                    : o instanceof boolean[] flags ? d * 31 + (flags[i] ? 1 : 0)
+                    : fold(d, Array.get(o, i), depth + 1);
             }
             return d;
         }

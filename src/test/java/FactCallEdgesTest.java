@@ -32,10 +32,13 @@ public final class FactCallEdgesTest {
         promise13RetractMakesRoom();
         promise13ThatIsMeant();
         promise13SupportNeedsTheMatchAllTheTime();
+        promise13AnotherFactInItsPlace();
         promise13RetractIfStillThere();
         promise13ValuesStay();
         promise13SupportedByItself();
         promise13NeitherStatedNorSupported();
+        promise13OnlyThenTheNextAction();
+        promise13NoSupportOfTheMatchThatCameAgain();
         promise13FiveHundredAndTwelveCalls();
         check.end();
     }
@@ -424,6 +427,27 @@ public final class FactCallEdgesTest {
         }
     }
 
+    /** A match of another fact of the kind is another match, and SUPPORTs nothing for the one that fires. */
+    private static void promise13AnotherFactInItsPlace() {
+        for (int value = 0; value < 2; value++) {
+            RuleForge x = new RuleForge();
+            x.addRule(0);
+            x.addCondition(0, EACH, 0, 1);
+            x.addRetract(0, 0);
+            x.addTold(0, false, 0);
+            x.setValue(0, 1, 0, -1, value);
+            x.addTold(0, true, 1);
+            x.switchOn(0);
+            x.state(0, 0, 0, 0);
+            check.same("13: one fires", x.fire(1), 1);
+            check.same("13: the other fact, with the same values or not", x.find(0, value, 0, 0), 1);
+            check.same("13: no SUPPORT", x.find(1, 0, 0, 0), -1);
+            check.same("13: it alone is there", x.facts() * 10 + x.next(), 12);
+            check.isNotSo("13: its match waits", x.hasFired(0, 0));
+            check.same("13: on the AGENDA", x.agenda(), 1);
+        }
+    }
+
     /** "RETRACT: the fact of that CONDITION in the match, if it is still there, is gone, STATED and SUPPORTED or not." */
     private static void promise13RetractIfStillThere() {
         RuleForge x = new RuleForge();
@@ -519,6 +543,59 @@ public final class FactCallEdgesTest {
             check.same("13: as soon as it is neither", last, 1);
             check.same("13: gone", x.matches(2), 0);
         }
+    }
+
+    /** "till nothing changes any more; only then the next ACTION is done": 30 in a row go behind one ACTION. */
+    private static void promise13OnlyThenTheNextAction() {
+        RuleForge x = new RuleForge();
+        for (int r = 0; r < 5; r++) {
+            x.addRule(9);
+            x.addCondition(r, EACH, r, 1);
+            x.setTest(r, 0, 2, 4, 0);
+            x.addTold(r, true, (r + 1) % 5);
+            x.setValue(r, 0, 2, 0, r == 4 ? 1 : 0);
+            x.switchOn(r);
+        }
+        x.state(0, 0, 0, 0);
+        x.fire(20);
+        x.fire(20);
+        check.same("13: a row of 30", x.facts(), 30);
+        x.addRule(-9);
+        x.addCondition(5, EACH, 0, 1);
+        x.setTest(5, 0, 2, 1, 0);
+        x.addRetract(5, 0);
+        x.addTold(5, false, 4);
+        x.setValue(5, 1, 2, -1, 5);
+        x.switchOn(5);
+        check.same("13: the last of the row is there", x.find(4, 0, 0, 5), 29);
+        check.same("13: one fires", x.fire(1), 1);
+        check.same("13: it was gone ahead of the STATE", x.find(4, 0, 0, 5), 30);
+        check.same("13: it alone is there", x.facts(), 1);
+    }
+
+    /** "A match that is there no more SUPPORTS nothing any more", nor does the one that comes to be again. */
+    private static void promise13NoSupportOfTheMatchThatCameAgain() {
+        RuleForge x = new RuleForge();
+        x.addRule(0);
+        x.addCondition(0, EACH, 0, 1);
+        x.addCondition(0, NONE, 1, 1);
+        x.addTold(0, true, 2);
+        x.addTold(0, true, 3);
+        x.switchOn(0);
+        x.state(0, 0, 0, 0);
+        x.state(2, 0, 0, 0);
+        x.fire(1);
+        check.same("13: STATED and SUPPORTED", x.supports(1), 1);
+        x.state(1, 0, 0, 0);
+        check.same("13: the match is there no more", x.supports(1), 0);
+        check.same("13: what it alone SUPPORTED is gone", x.find(3, 0, 0, 0), -1);
+        x.retract(x.find(1, 0, 0, 0));
+        check.same("13: it came to be again", x.matches(0), 1);
+        check.same("13: and SUPPORTS nothing", x.supports(1), 0);
+        check.same("13: nor does what it SUPPORTED come back", x.facts(), 2);
+        x.fire(1);
+        check.same("13: till it fires", x.supports(1), 1);
+        check.same("13: with a new number", x.find(3, 0, 0, 0), 4);
     }
 
     /** "An object is used for at most 512 calls": numbers of facts as great as may be, and the AGENDA by them. */

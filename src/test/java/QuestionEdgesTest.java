@@ -169,14 +169,19 @@ public final class QuestionEdgesTest {
                 x.addCondition(r, NONE, c, 1);
             }
         }
-        x.state(0, 0, 0, 0);
+        for (int i = 0; i < 10; i++) {
+            // one of kind 0, two of kind 1, three of kind 2, four of kind 3
+            x.state(i < 1 ? 0 : i < 3 ? 1 : i < 6 ? 2 : 3, i, 0, 0);
+        }
         for (int r = 0; r < 5; r++) {
             int rule = r;
             for (int condition : new int[] {-1, r, r + 1, 4, LEAST, MOST}) {
                 check.refusesIndex("20: condition " + condition + " of " + r, x, () -> x.candidates(rule, condition));
             }
             for (int c = 0; c < r; c++) {
-                check.same("20: condition " + c + " of " + r, x.candidates(r, c), c == 0 ? 1 : 0);
+                check.same("20: condition " + c + " of " + r, x.candidates(r, c), c + 1);
+                x.setTest(r, c, 0, 3, 2);
+                check.same("20: with a test", x.candidates(r, c), c == 0 ? 0 : c == 1 ? 0 : c + 1);
             }
         }
         check.refusesIndex("20: no rule", x, () -> x.candidates(5, 0));
