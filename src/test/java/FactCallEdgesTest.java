@@ -140,7 +140,7 @@ public final class FactCallEdgesTest {
     /** "Facts are numbered from 0 ..; a fact that is gone never comes back: the same .. come with a new number." */
     private static void promise10NewNumbers() {
         RuleForge x = new RuleForge();
-        for (int i = 0; i < 100; i++) {
+        for (int i = 0; i < 80; i++) {
             check.same("10: each with the next number", x.state(5, -999, 999, 0), i);
             check.same("10: next()", x.next(), i + 1);
             check.same("10: gone", i % 2 == 0 ? x.retract(i) : x.takeBack(i), 1);

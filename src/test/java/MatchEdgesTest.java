@@ -221,27 +221,31 @@ public final class MatchEdgesTest {
 
     /** "numbered from 0 by rising numbers of their facts: by that of the first EACH in which they differ" */
     private static void promise34Numbering() {
-        RuleForge x = new RuleForge();
-        each(x, 0, 0, 0, 0);
-        for (int i = 0; i < 6; i++) {
-            x.state(0, i, 0, 0);
-        }
-        for (int match = 0; match < 216; match++) {
-            check.same("34: place 0", x.factOf(0, match, 0), match / 36);
-            check.same("34: place 1", x.factOf(0, match, 1), match / 6 % 6);
-            check.same("34: place 2", x.factOf(0, match, 2), match % 6);
-        }
-        x.retract(2);
-        x.retract(0);
-        x.retract(5);
-        x.state(0, 7, 0, 0);
-        x.state(0, 0, 0, 0);
         int[] there = {1, 3, 4, 6, 7};
-        for (int match = 0; match < 125; match++) {
-            check.same("34: place 0, by numbers", x.factOf(0, match, 0), there[match / 25]);
-            check.same("34: place 1, by numbers", x.factOf(0, match, 1), there[match / 5 % 5]);
-            check.same("34: place 2, by numbers", x.factOf(0, match, 2), there[match % 5]);
+        for (int place = 0; place < 3; place++) {
+            RuleForge x = new RuleForge();
+            each(x, 0, 0, 0, 0);
+            for (int i = 0; i < 6; i++) {
+                x.state(0, i, 0, 0);
+            }
+            for (int match = 0; match < 216; match++) {
+                check.same("34: place " + place, x.factOf(0, match, place), digit(match, 6, place));
+            }
+            x.retract(2);
+            x.retract(0);
+            x.retract(5);
+            x.state(0, 7, 0, 0);
+            x.state(0, 0, 0, 0);
+            for (int match = 0; match < 125; match++) {
+                int due = there[digit(match, 5, place)];
+                check.same("34: place " + place + ", by numbers", x.factOf(0, match, place), due);
+            }
         }
+    }
+
+    /** One of the three digits of a number, the first one being that of the highest value. */
+    private static int digit(int number, int base, int place) {
+        return place == 0 ? number / base / base : place == 1 ? number / base % base : number % base;
     }
 
     /** "Throws `IndexOutOfBoundsException` if there is no such rule, no such match of it, or no such place" */

@@ -379,16 +379,19 @@ public final class QuestionEdgesTest {
             check.refusesIndex("32: fact " + fact, x, () -> x.uses(fact));
         }
         check.same("24: the others are there", x.facts(), 47);
+        RuleForge y = Full.engine();
+        y.retract(gone);
         for (int i = 0; i < 48; i++) {
-            int fact = i;
-            if (fact != gone) {
-                check.isSo("26: fact " + i, x.kindOf(fact) >= 0 && x.kindOf(fact) < 8);
-                check.isSo("27: fact " + i, x.valueOf(fact, 0) >= 0 && x.valueOf(fact, 0) < 6);
-                check.same("28: fact " + i, x.isStated(fact) ? 1 : 0, fact < 6 ? 1 : 0);
-                check.same("29: fact " + i, x.supports(fact), fact < 6 ? 0 : 1);
-                check.isSo("30: fact " + i, x.because(fact) < 3);
-                check.isSo("31: fact " + i, x.distance(fact) < 3);
-                check.same("32: fact " + i, x.uses(fact), x.kindOf(fact) < 4 ? 1 : 0);
+            if (i != gone) {
+                int kind = y.kindOf(i);
+                int value = y.valueOf(i, 0);
+                check.isSo("26: fact " + i, kind >= 0 && kind < 8);
+                check.isSo("27: fact " + i, value >= 0 && value < 6);
+                check.same("28: fact " + i, y.isStated(i) ? 1 : 0, i < 6 ? 1 : 0);
+                check.same("29: fact " + i, y.supports(i), i < 6 ? 0 : 1);
+                check.isSo("30: fact " + i, y.because(i) < 3);
+                check.isSo("31: fact " + i, y.distance(i) < 3);
+                check.same("32: fact " + i, y.uses(i), kind < 4 ? 1 : 0);
             }
         }
     }
@@ -406,20 +409,22 @@ public final class QuestionEdgesTest {
 
     /** "Throws `IndexOutOfBoundsException` if .., or slot is not 0 to 2" */
     private static void promise27Slots() {
-        RuleForge x = new RuleForge();
-        for (int i = 0; i < 48; i++) {
-            x.state(i / 6, 999 - i, i - 999, i);
-        }
-        for (int i = 0; i < 48; i++) {
-            int fact = i;
-            for (int slot : new int[] {-1, 3, 4, LEAST, MOST}) {
-                check.refusesIndex("27: slot " + slot, x, () -> x.valueOf(fact, slot));
+        for (int kind = 0; kind < 8; kind++) {
+            RuleForge x = new RuleForge();
+            for (int i = 0; i < 48; i++) {
+                x.state(i / 6, 999 - i, i - 999, i);
             }
-            check.same("27: slot 0", x.valueOf(i, 0), 999 - i);
-            check.same("27: slot 1", x.valueOf(i, 1), i - 999);
-            check.same("27: slot 2", x.valueOf(i, 2), i);
+            for (int i = 6 * kind; i < 6 * kind + 6; i++) {
+                int fact = i;
+                for (int slot : new int[] {-1, 3, 4, LEAST, MOST}) {
+                    check.refusesIndex("27: slot " + slot, x, () -> x.valueOf(fact, slot));
+                }
+                check.same("27: slot 0", x.valueOf(i, 0), 999 - i);
+                check.same("27: slot 1", x.valueOf(i, 1), i - 999);
+                check.same("27: slot 2", x.valueOf(i, 2), i);
+            }
+            check.refusesIndex("27: no fact and no slot", x, () -> x.valueOf(48, 3));
         }
-        check.refusesIndex("27: no fact and no slot", x, () -> x.valueOf(48, 3));
     }
 
     /** "Returns whether it is STATED.": SUPPORTED or not. */

@@ -20,20 +20,21 @@ public final class RefusedCallsTest {
 
     public static void main(String[] args) {
         for (int at = 0; at <= steps().size(); at++) {
-            twoGoTheSameWay(at);
+            twoGoTheSameWay(at, RefusedCallsTest::pesterRules);
+            twoGoTheSameWay(at, RefusedCallsTest::pesterFacts);
         }
         check.isSo("enough calls were refused: " + refused, refused > 10000);
         check.end();
     }
 
-    /** The refused calls come ahead of one of the steps alone, so that no object is called too often. */
-    private static void twoGoTheSameWay(int at) {
+    /** The refused calls, half of them at a time, come ahead of one step alone: few enough for one object. */
+    private static void twoGoTheSameWay(int at, Call pester) {
         RuleForge plain = new RuleForge();
         RuleForge pestered = new RuleForge();
         List<Call> steps = steps();
         for (int i = 0; i <= steps.size(); i++) {
             if (i == at) {
-                pester(pestered);
+                pester.run(pestered);
                 check.same("2 to 45: alike ahead of step " + at, pestered.digest(), plain.digest());
             }
             if (i < steps.size()) {
@@ -107,7 +108,8 @@ public final class RefusedCallsTest {
         return steps;
     }
 
-    private static void pester(RuleForge x) {
+    /** All that is refused about the rules that are there. */
+    private static void pesterRules(RuleForge x) {
         for (int rule = 0; rule < x.rules(); rule++) {
             int r = rule;
             wrongArguments(x, r, IllegalArgumentException.class);
@@ -123,6 +125,10 @@ public final class RefusedCallsTest {
             refuse(x, IndexOutOfBoundsException.class, y -> y.hasFired(r, y.matches(r)));
             refuse(x, IndexOutOfBoundsException.class, y -> y.variableOf(r, y.matches(r), 0));
         }
+    }
+
+    /** All that is refused about facts, and about a rule that is not there. */
+    private static void pesterFacts(RuleForge x) {
         int none = x.rules();
         wrongArguments(x, none, IndexOutOfBoundsException.class);
         whileOff(x, none);

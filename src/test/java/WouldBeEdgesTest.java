@@ -1,6 +1,8 @@
 import java.math.BigInteger;
 import java.util.ArrayList;
 import java.util.List;
+import java.util.function.Consumer;
+import java.util.function.Supplier;
 
 /**
  * Promises 42 to 46 at their edges: as many firings as just do and one too few, nothing there yet and as many as
@@ -186,18 +188,18 @@ public final class WouldBeEdgesTest {
 
     /** "whether there would be a fact of this kind with these values behind fire() of so many": just so many, one less. */
     private static void promise45UpToEach() {
-        RuleForge x = Full.row();
-        x.retract(1);
-        x.state(1, 0, 0, 0);
         for (int fact = 2; fact <= 23; fact++) {
+            RuleForge x = Full.row();
+            x.retract(1);
+            x.state(1, 0, 0, 0);
             for (int most = 1; most <= 20; most++) {
                 boolean would = x.wouldHold(fact % 6, 0, 0, fact / 6, most);
                 check.same("45: fact " + fact + " behind " + most, would ? 1 : 0, fact <= most + 1 ? 1 : 0);
                 check.isNotSo("45: another a", x.wouldHold(fact % 6, 1, 0, fact / 6, most));
                 check.isNotSo("45: another b", x.wouldHold(fact % 6, 0, 1, fact / 6, most));
             }
+            check.same("45: as many now as ahead of that", x.facts(), 2);
         }
-        check.same("45: as many now as ahead of that", x.facts(), 2);
     }
 
     /** No kind or value is refused: there would be no such fact. */
@@ -241,28 +243,36 @@ public final class WouldBeEdgesTest {
 
     /** "what would be (nothing is changed)": neither a number that is used, nor what FIRED. */
     private static void promises42To46ChangeNothing() {
-        RuleForge x = Full.engine();
-        RuleForge y = Full.engine();
-        for (int round = 0; round < 6; round++) {
-            int fact = round;
-            for (int most = 1; most <= 20; most++) {
-                x.factsBehind(most);
-                x.firingsToRest(most);
-                x.wouldHold(round, 0, 0, 0, most);
-            }
-            for (int i = 0; i < x.next(); i++) {
-                if (x.isThere(i)) {
-                    x.wouldGo(i);
+        for (int asked = 0; asked < 6; asked++) {
+            RuleForge x = Full.engine();
+            RuleForge y = Full.engine();
+            for (int round = 0; round < 6; round++) {
+                if (round == asked) {
+                    askWhatWouldBe(x);
                 }
+                check.same("46: as the other one", x.digest(), y.digest());
+                check.same("12: goes on alike", x.retract(round), y.retract(round));
+                check.same("10: goes on alike", x.state(0, round, 0, 0), y.state(0, round, 0, 0));
+                check.same("13: goes on alike", x.fire(3), y.fire(3));
+                check.same("23: goes on alike", x.next(), y.next());
+                check.same("46: as the other one", x.digest(), y.digest());
             }
-            x.digest();
-            check.same("46: as the other one", x.digest(), y.digest());
-            check.same("12: goes on alike", x.retract(fact), y.retract(fact));
-            check.same("10: goes on alike", x.state(0, fact, 0, 0), y.state(0, fact, 0, 0));
-            check.same("13: goes on alike", x.fire(3), y.fire(3));
-            check.same("23: goes on alike", x.next(), y.next());
-            check.same("46: as the other one", x.digest(), y.digest());
         }
+    }
+
+    private static void askWhatWouldBe(RuleForge x) {
+        for (int most = 1; most <= 20; most++) {
+            x.factsBehind(most);
+            x.firingsToRest(most);
+            x.wouldHold(most % 8, 0, 0, 0, most);
+        }
+        int next = x.next();
+        for (int fact = 0; fact < next; fact++) {
+            if (x.isThere(fact)) {
+                x.wouldGo(fact);
+            }
+        }
+        x.digest();
     }
 
     /** "A number d starts with 58028": no rules, no facts, three times -1 for nextFact() and once for nextRule(). */
@@ -277,101 +287,123 @@ public final class WouldBeEdgesTest {
 
     /** "d becomes d * 31 + x, which wraps around as a 64-bit integer": below and above the bounds, and many times. */
     private static void promise46WrapsAround() {
-        RuleForge x = new RuleForge();
         BigInteger most = BigInteger.valueOf(Long.MAX_VALUE);
-        check.isSo("46: nothing there yet, it just fits", unbounded(x).compareTo(most) <= 0);
+        check.isSo("46: nothing there yet, it just fits", unbounded(RuleForge::new).compareTo(most) <= 0);
         boolean isLess = false;
         boolean isMore = false;
-        for (int r = 0; r < 6; r++) {
-            x.addRule(r - 9);
-            check.isSo("46: it does not fit", unbounded(x).compareTo(most) > 0);
-            check.same("46: wraps around", x.digest(), unbounded(x).longValue());
-            isLess |= x.digest() < 0;
-            isMore |= x.digest() > 0;
+        for (int rules = 1; rules <= 6; rules++) {
+            int count = rules;
+            Supplier<RuleForge> made = () -> withRules(count);
+            long digest = made.get().digest();
+            check.isSo("46: it does not fit", unbounded(made).compareTo(most) > 0);
+            check.same("46: wraps around", digest, unbounded(made).longValue());
+            isLess |= digest < 0;
+            isMore |= digest > 0;
         }
         check.isSo("46: below 0 and above", isLess && isMore);
     }
 
+    private static RuleForge withRules(int count) {
+        RuleForge x = new RuleForge();
+        for (int r = 0; r < count; r++) {
+            x.addRule(r - 9);
+        }
+        return x;
+    }
+
     /** Each of the numbers counts: whatever call changes one of them changes the checksum. */
     private static void promise46EachNumber() {
-        RuleForge x = Full.engine();
-        List<Long> all = new ArrayList<>();
-        all.add(x.digest());
-        x.addCondition(4, EACH, 5, 1);
-        all.add(x.digest());
-        x.setTest(4, 0, 0, 5, 0);
-        all.add(x.digest());
-        x.setTest(4, 0, 0, 0, 0);
-        x.addTold(4, true, 5);
-        all.add(x.digest());
-        x.switchOn(4);
-        all.add(x.digest());
-        x.fire(1);
-        all.add(x.digest());
-        x.state(5, 0, 0, 0);
-        all.add(x.digest());
-        x.takeBack(x.find(5, 0, 0, 0));
-        x.retract(x.find(6, 0, 0, 0));
-        all.add(x.digest());
+        List<Consumer<RuleForge>> steps = List.of(
+            x -> x.addCondition(4, EACH, 5, 1),
+            x -> x.setTest(4, 0, 0, 5, 0),
+            x -> {
+                x.setTest(4, 0, 0, 0, 0);
+                x.addTold(4, true, 5);
+            },
+            x -> x.switchOn(4),
+            x -> x.fire(1),
+            x -> x.state(5, 0, 0, 0),
+            x -> {
+                x.takeBack(x.find(5, 0, 0, 0));
+                x.retract(x.find(6, 0, 0, 0));
+            });
+        List<Long> all = sumsAlong("each number", Full::engine, steps);
         for (int i = 0; i < all.size(); i++) {
             check.same("46: differs from all ahead of it", all.indexOf(all.get(i)), i);
         }
-        check.same("46: of its numbers", x.digest(), unbounded(x).longValue());
     }
 
     /** With 48 facts, with 1296 matches, and in between. */
     private static void promise46AsMuchAsMayBe() {
-        for (RuleForge x : new RuleForge[] {Full.engine(), Full.oneHoldsAll(), Full.row(), Full.matches()}) {
-            check.same("46: as much as may be", x.digest(), unbounded(x).longValue());
-            x.fire(20);
-            check.same("46: twenty more FIRED", x.digest(), unbounded(x).longValue());
-            x.retract(3);
-            check.same("46: one is gone", x.digest(), unbounded(x).longValue());
-            x.switchOff(0);
-            check.same("46: a rule is off", x.digest(), unbounded(x).longValue());
-        }
+        List<Consumer<RuleForge>> steps = List.of(x -> x.fire(20), x -> x.retract(3), x -> x.switchOff(0));
+        sumsAlong("48 facts", Full::engine, steps);
+        sumsAlong("one that holds all", Full::oneHoldsAll, steps);
+        sumsAlong("a row", Full::row, steps);
+        sumsAlong("1296 matches", Full::matches, steps);
     }
 
     /** Facts and matches of all ages, places with and without facts. */
     private static void promise46AlongARun() {
-        RuleForge x = new RuleForge();
-        for (int r = 0; r < 6; r++) {
-            x.addRule(r % 3);
-            for (int c = 0; c < r % 4; c++) {
-                x.addCondition(r, EACH, c, 1);
-            }
-            x.addCondition(r, NONE, 7, 1);
-            x.addTold(r, r % 2 == 0, 6 - r);
-            x.switchOn(r);
-            x.state(r % 3, -999 + r, 0, 999 - r);
-            check.same("46: with rule " + r, x.digest(), unbounded(x).longValue());
-            x.fire(2);
-            check.same("46: behind that", x.digest(), unbounded(x).longValue());
+        List<Consumer<RuleForge>> steps = new ArrayList<>();
+        for (int rule = 0; rule < 6; rule++) {
+            int r = rule;
+            steps.add(x -> addRuleWithPlaces(x, r));
+            steps.add(x -> x.fire(2));
         }
-        x.state(7, 0, 0, 0);
-        check.same("46: no rule has a match", x.agenda(), 0);
-        check.same("46: without matches", x.digest(), unbounded(x).longValue());
+        steps.add(x -> {
+            x.state(7, 0, 0, 0);
+            check.same("46: no rule has a match", x.agenda(), 0);
+        });
+        sumsAlong("a run", RuleForge::new, steps);
+    }
+
+    private static void addRuleWithPlaces(RuleForge x, int r) {
+        x.addRule(r % 3);
+        for (int c = 0; c < r % 4; c++) {
+            x.addCondition(r, EACH, c, 1);
+        }
+        x.addCondition(r, NONE, 7, 1);
+        x.addTold(r, r % 2 == 0, 6 - r);
+        x.switchOn(r);
+        x.state(r % 3, -999 + r, 0, 999 - r);
+    }
+
+    /** The checksums ahead of the steps and behind each, looked at. */
+    private static List<Long> sumsAlong(String what, Supplier<RuleForge> start, List<Consumer<RuleForge>> steps) {
+        List<Long> all = new ArrayList<>();
+        for (int done = 0; done <= steps.size(); done++) {
+            List<Consumer<RuleForge>> those = steps.subList(0, done);
+            Supplier<RuleForge> made = () -> behind(start, those);
+            long digest = made.get().digest();
+            check.same("46: " + what + ", " + done + " steps done", digest, unbounded(made).longValue());
+            all.add(digest);
+        }
+        return all;
+    }
+
+    private static RuleForge behind(Supplier<RuleForge> start, List<Consumer<RuleForge>> steps) {
+        RuleForge x = start.get();
+        for (Consumer<RuleForge> step : steps) {
+            step.accept(x);
+        }
+        return x;
     }
 
     /** The checksum without the wrap-around, of all numbers that the document names, as the calls answer them. */
-    private static BigInteger unbounded(RuleForge x) {
+    private static BigInteger unbounded(Supplier<RuleForge> made) {
+        Alike alike = new Alike(made);
         List<Long> numbers = new ArrayList<>();
+        RuleForge x = alike.one();
         add(numbers, x.rules(), x.facts(), x.next(), x.agenda(), x.nextRule());
         add(numbers, x.nextFact(0), x.nextFact(1), x.nextFact(2), x.fired());
-        for (int r = 0; r < x.rules(); r++) {
-            add(numbers, x.isOn(r) ? 1 : 0, x.isSound(r) ? 1 : 0, x.urgency(r), x.conditions(r), x.actions(r));
-            add(numbers, x.firings(r), x.matches(r));
-            for (int m = 0; m < x.matches(r); m++) {
-                for (int place = 0; hasPlace(x, r, m, place); place++) {
-                    add(numbers, x.factOf(r, m, place));
-                }
-                add(numbers, x.hasFired(r, m) ? 1 : 0);
-            }
+        int rules = x.rules();
+        int next = x.next();
+        for (int r = 0; r < rules; r++) {
+            addRuleNumbers(numbers, alike, r);
         }
-        for (int f = 0; f < x.next(); f++) {
-            if (x.isThere(f)) {
-                add(numbers, f, x.kindOf(f), x.valueOf(f, 0), x.valueOf(f, 1), x.valueOf(f, 2));
-                add(numbers, x.isStated(f) ? 1 : 0, x.supports(f), x.because(f), x.distance(f), x.uses(f));
+        for (int f = 0; f < next; f++) {
+            if (alike.one().isThere(f)) {
+                addFactNumbers(numbers, alike, f);
             }
         }
         BigInteger d = BigInteger.valueOf(58028);
@@ -379,6 +411,26 @@ public final class WouldBeEdgesTest {
             d = d.multiply(BigInteger.valueOf(31)).add(BigInteger.valueOf(number));
         }
         return d;
+    }
+
+    private static void addRuleNumbers(List<Long> numbers, Alike alike, int r) {
+        add(numbers, alike.one().isOn(r) ? 1 : 0, alike.one().isSound(r) ? 1 : 0, alike.one().urgency(r));
+        add(numbers, alike.one().conditions(r), alike.one().actions(r), alike.one().firings(r));
+        int matches = alike.one().matches(r);
+        add(numbers, matches);
+        for (int m = 0; m < matches; m++) {
+            for (int place = 0; hasPlace(alike.one(), r, m, place); place++) {
+                add(numbers, alike.one().factOf(r, m, place));
+            }
+            add(numbers, alike.one().hasFired(r, m) ? 1 : 0);
+        }
+    }
+
+    private static void addFactNumbers(List<Long> numbers, Alike alike, int f) {
+        add(numbers, f, alike.one().kindOf(f));
+        add(numbers, alike.one().valueOf(f, 0), alike.one().valueOf(f, 1), alike.one().valueOf(f, 2));
+        add(numbers, alike.one().isStated(f) ? 1 : 0, alike.one().supports(f), alike.one().because(f));
+        add(numbers, alike.one().distance(f), alike.one().uses(f));
     }
 
     private static void add(List<Long> numbers, int... more) {
